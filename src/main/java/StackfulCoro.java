@@ -257,7 +257,6 @@ public final class StackfulCoro {
         for (int i = tagCount[frame] - 1; i >= 0; i--) {
             appendLog(tags[frame * TAGS + i]);
         }
-        tagCount[frame] = 0;
         depth[thread]--;
     }
 

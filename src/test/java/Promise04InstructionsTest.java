@@ -75,6 +75,9 @@ public final class Promise04InstructionsTest {
                 Asm.running(3), Asm.out(3), Asm.ret(3));
         CHECK.log("RUNNING", x, 0, 2, 1);
         CHECK.ended("RUNNING", x, StackfulCoro.ST_DONE, 0);
+        StackfulCoro later = Asm.ran(1, 1, Asm.create(1, 5), Asm.close(2, 1), Asm.create(1, 5), Asm.resume(2, 1, 0), Asm.ret(2),
+                Asm.running(3), Asm.ret(3));
+        CHECK.ended("RUNNING in handle 2, the only one live", later, StackfulCoro.ST_DONE, 2);
     }
 
     private static void statuses() {
