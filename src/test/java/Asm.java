@@ -25,12 +25,16 @@ final class Asm {
     static int[] close(int a, int b) { return new int[] {StackfulCoro.OP_CLOSE, a, b, IGNORED}; }
     static int[] running(int a) { return new int[] {StackfulCoro.OP_RUNNING, a, IGNORED, IGNORED}; }
 
+    static void emit(StackfulCoro x, int[] i) {
+        if (!x.emit(i[0], i[1], i[2], i[3])) {
+            throw new IllegalStateException("not emitted: op " + i[0] + " at " + x.getCodeLength());
+        }
+    }
+
     static StackfulCoro load(int maxCo, int maxDepth, int[]... program) {
         StackfulCoro x = new StackfulCoro(maxCo, maxDepth);
         for (int[] i : program) {
-            if (!x.emit(i[0], i[1], i[2], i[3])) {
-                throw new IllegalStateException("not emitted: op " + i[0] + " at " + x.getCodeLength());
-            }
+            emit(x, i);
         }
         return x;
     }

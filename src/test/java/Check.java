@@ -1,13 +1,19 @@
 /** Collects the answers of one test; every wrong one is printed, and end() turns them into the exit code. */
 final class Check {
+    private String sentence = "";
     private int wrong;
     private int asked;
+
+    /** Names the sentence of the document that the answers from here on belong to. */
+    void sentence(String text) {
+        sentence = "\"" + text + "\" ";
+    }
 
     void due(String what, long got, long want) {
         asked++;
         if (got != want) {
             wrong++;
-            System.out.println(what + " answered " + got + ", due is " + want);
+            System.out.println(sentence + what + " answered " + got + ", due is " + want);
         }
     }
 
@@ -25,6 +31,31 @@ final class Check {
     void ended(String what, StackfulCoro x, int state, int result) {
         due(what + ": getState()", x.getState(), state);
         due(what + ": getResult()", x.getResult(), result);
+    }
+
+    void regs(String what, StackfulCoro x, int h, int... want) {
+        for (int r = 0; r < 8; r++) {
+            due(what + ": getReg(" + h + ", " + r + ")", x.getReg(h, r), want[r]);
+        }
+    }
+
+    /** Every getter answers what it answered when the snapshot was taken. */
+    void unchanged(String what, StackfulCoro x, Snapshot before) {
+        asked++;
+        String difference = Snapshot.of(x).difference(before);
+        if (!difference.isEmpty()) {
+            wrong++;
+            System.out.println(sentence + what + ": " + difference);
+        }
+    }
+
+    /** Two machines go on alike, step by step, to their end: what no getter shows is then alike too. */
+    void sameFuture(String what, StackfulCoro x, StackfulCoro twin) {
+        for (int step = 0, done = 1; step < 200 && done != 0; step++) {
+            unchanged(what + ", " + step + " steps later", x, Snapshot.of(twin));
+            done = twin.run(1);
+            due(what + ", run(1) " + step + " steps later", x.run(1), done);
+        }
     }
 
     int wrongSoFar() {

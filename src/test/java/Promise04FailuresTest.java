@@ -144,7 +144,7 @@ public final class Promise04FailuresTest {
         for (int i = 0; i < bodies.length; i++) {
             StackfulCoro x = Asm.load(1, 4, Asm.create(1, 5), Asm.resume(2, 1, 1), Asm.out(3), Asm.ret(2), Asm.ret(2));
             for (int[] instruction : bodies[i]) {
-                x.emit(instruction[0], instruction[1], instruction[2], instruction[3]);
+                Asm.emit(x, instruction);
             }
             x.start(0, 0);
             x.run(1000);
