@@ -112,17 +112,14 @@ public final class Boundary06StatusTest {
     }
 
     // Each round makes a coroutine in the only room and lets it die in one of four ways.
-    private static StackfulCoro mortal(int[] death, int[] second) {
-        return Asm.started(1, 1, Asm.create(1, 5), Asm.resume(2, 1, 0), second, Asm.jmp(0), Asm.jmp(4), death);
+    private static StackfulCoro mortal(int[] death, int[] afterwards) {
+        return Asm.started(1, 1, Asm.create(1, 5), Asm.resume(2, 1, 0), afterwards, Asm.jmp(0), Asm.jmp(4), death);
     }
 
     private static void deadIsFinal() {
         CHECK.sentence("Once `coStatus(h)` answers `CO_DEAD` for a handle that has been given out (1 <= h <= `getLastHandle()`), "
                 + "it answers `CO_DEAD` after every later call.");
-        int[][][] ways = {
-            {Asm.ret(0), Asm.move(7, 7)}, {Asm.error(0), Asm.move(7, 7)}, {Asm.jmp(63), Asm.move(7, 7)}, {Asm.yieldTo(0, 0), Asm.close(7, 1)}
-        };
-        for (int[][] way : ways) {
+        for (int[][] way : Scene.deaths()) {
             StackfulCoro x = mortal(way[0], way[1]);
             boolean[] dead = new boolean[100];
             for (int step = 0; step < 300; step++) {
@@ -155,10 +152,7 @@ public final class Boundary06StatusTest {
     // The dead handle 1 is resumed while its room stands empty, and while another coroutine lives in it.
     private static void laterResumeOfDead() {
         CHECK.sentence("Every later RESUME or WRESUME of such a given-out DEAD handle h completes with failure ERR_DEAD.");
-        int[][][] ways = {
-            {Asm.ret(0), Asm.move(7, 7)}, {Asm.error(0), Asm.move(7, 7)}, {Asm.jmp(63), Asm.move(7, 7)}, {Asm.yieldTo(0, 0), Asm.close(7, 1)}
-        };
-        for (int[][] way : ways) {
+        for (int[][] way : Scene.deaths()) {
             StackfulCoro x = Asm.started(1, 1, Asm.create(1, 12), Asm.resume(2, 1, 0), way[1],
                     Asm.resume(2, 1, 0), Asm.out(2), Asm.out(3), Asm.create(4, 12), Asm.resume(2, 1, 0), Asm.out(2), Asm.out(3),
                     Asm.wresume(2, 1, 0), Asm.out(2), way[0]);

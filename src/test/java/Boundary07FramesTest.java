@@ -244,15 +244,9 @@ public final class Boundary07FramesTest {
                 Asm.loadk(7, 70), Asm.defer(7), Asm.call(1, 9, 7), Asm.ret(7), Asm.loadk(6, 60), Asm.defer(6), death, Asm.ret(6));
     }
 
-    private static int[][][] deaths() {
-        return new int[][][] {
-            {Asm.ret(0), Asm.move(7, 7)}, {Asm.error(0), Asm.move(7, 7)}, {Asm.jmp(63), Asm.move(7, 7)}, {Asm.yieldTo(0, 0), Asm.close(7, 1)}
-        };
-    }
-
     private static void deadAnswersZero() {
         CHECK.sentence("For every DEAD handle h >= 1, these three methods answer 0 for all arguments.");
-        for (int[][] way : deaths()) {
+        for (int[][] way : Scene.deaths()) {
             StackfulCoro x = mortal(way[0], way[1]);
             x.run(7);
             CHECK.due("alive: getDepth(1)", x.getDepth(1), 2);
@@ -269,7 +263,7 @@ public final class Boundary07FramesTest {
 
     private static void deadStaysZero() {
         CHECK.sentence("If h has been given out (h <= `getLastHandle()`), this also holds after every later call.");
-        for (int[][] way : deaths()) {
+        for (int[][] way : Scene.deaths()) {
             StackfulCoro x = mortal(way[0], way[1]);
             for (int step = 0; step < 150; step++) {
                 x.run(1);

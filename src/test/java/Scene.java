@@ -39,6 +39,14 @@ final class Scene {
         return x;
     }
 
+    /** The ways to die: a coroutine's last instruction, and what its resumer, with the handle in r1, does after it. */
+    static int[][][] deaths() {
+        int[] nothing = Asm.move(7, 7);
+        return new int[][][] {
+            {Asm.ret(0), nothing}, {Asm.error(0), nothing}, {Asm.jmp(63), nothing}, {Asm.yieldTo(0, 0), Asm.close(7, 1)}
+        };
+    }
+
     static String name(int ending, int steps) {
         return (ending == RETURNS ? "returning" : "failing") + " program after " + steps + " steps";
     }
