@@ -8,6 +8,7 @@ public final class Boundary04CoroutinesTest {
         createWithAllLive();
         createWithAllSuspended();
         roomByEveryDeath();
+        roomOfAnyDead();
         nextHandle();
         createdHasNoFrames();
         createdBody();
@@ -82,6 +83,74 @@ public final class Boundary04CoroutinesTest {
             CHECK.due("getLiveCount()", x.getLiveCount(), 1);
             x.run(1);
             CHECK.ended("and for no more", x, StackfulCoro.ST_FAILED, StackfulCoro.ERR_TOO_MANY);
+        }
+    }
+
+    // Each set of closed handles, and each thread that is left as the maker of the next ones.
+    private static void roomOfAnyDead() {
+        for (int maxCo = 1; maxCo <= 4; maxCo++) {
+            for (int closed = 0; closed < 1 << maxCo; closed++) {
+                for (int maker = 0; maker <= maxCo; maker++) {
+                    if (maker == 0 || !isIn(closed, maker)) {
+                        takenAgain(maxCo, closed, maker);
+                    }
+                }
+            }
+        }
+    }
+
+    private static boolean isIn(int set, int h) {
+        return (set >> h - 1 & 1) == 1;
+    }
+
+    // The maker stands at 62, where it makes one after another until there is no room; main waits where it resumed it.
+    private static StackfulCoro making(int maxCo, int closed, int maker) {
+        StackfulCoro x = new StackfulCoro(maxCo, 1);
+        for (int h = 1; h <= maxCo; h++) {
+            Asm.emit(x, Asm.create(1, 62));
+        }
+        for (int h = 1; h <= maxCo; h++) {
+            if (isIn(closed, h)) {
+                Asm.emit(x, Asm.loadk(7, h));
+                Asm.emit(x, Asm.close(6, 7));
+            }
+        }
+        Asm.emit(x, Asm.loadk(7, maker));
+        Asm.emit(x, maker == 0 ? Asm.jmp(62) : Asm.resume(5, 7, 0));
+        int steps = x.getCodeLength();
+        while (x.getCodeLength() < 62) {
+            Asm.emit(x, Asm.jmp(x.getCodeLength()));
+        }
+        Asm.emit(x, Asm.create(1, 62));
+        Asm.emit(x, Asm.jmp(62));
+        x.start(0, 0);
+        x.run(steps);
+        return x;
+    }
+
+    private static void takenAgain(int maxCo, int closed, int maker) {
+        StackfulCoro x = making(maxCo, closed, maker);
+        int dead = Integer.bitCount(closed);
+        String what = "maxCo " + maxCo + ", closed " + Integer.toBinaryString(closed) + ", maker " + maker;
+        CHECK.due(what + ": getLiveCount()", x.getLiveCount(), maxCo - dead);
+        for (int made = 1; made <= dead; made++) {
+            x.run(1);
+            CHECK.due(what + ": getReg(" + maker + ", 1)", x.getReg(maker, 1), maxCo + made);
+            CHECK.due(what + ": getLiveCount()", x.getLiveCount(), maxCo - dead + made);
+            x.run(1);
+        }
+        CHECK.due(what + ": currentCo()", x.currentCo(), maker);
+        for (int h = 1; h <= maxCo + dead; h++) {
+            int alive = h == maker ? StackfulCoro.CO_RUNNING : StackfulCoro.CO_SUSPENDED;
+            CHECK.due(what + ": coStatus(" + h + ")", x.coStatus(h), isIn(closed, h) ? StackfulCoro.CO_DEAD : alive);
+        }
+        x.run(1);
+        CHECK.due(what + ": getLastHandle() after one too many", x.getLastHandle(), maxCo + dead);
+        if (maker == 0) {
+            CHECK.ended(what, x, StackfulCoro.ST_FAILED, StackfulCoro.ERR_TOO_MANY);
+        } else {
+            CHECK.due(what + ": getReg(0, 5)", x.getReg(0, 5), StackfulCoro.ERR_TOO_MANY);
+            CHECK.due(what + ": getLiveCount()", x.getLiveCount(), maxCo - 1);
         }
     }
 

@@ -270,9 +270,11 @@ final class Model {
         for (int i = -1; i <= 65; i++) {
             check.due(when + "getLog(" + i + ")", x.getLog(i), i >= 0 && i < log.size() ? log.get(i) : 0);
         }
-        for (int h = -1; h <= last + 1; h++) {
+        // Handles long dead are looked at now and then, since a run may make very many.
+        for (int h = last % 16 == 0 ? -1 : Math.max(-1, last - 12); h <= last + 1; h++) {
             compareHandle(when, h, x, check);
         }
+        compareHandle(when, 0, x, check);
     }
 
     private void compareHandle(String when, int h, StackfulCoro x, Check check) {

@@ -2,6 +2,15 @@
 public final class ModelTest {
     private static final int PROGRAMS = 20000;
     private static final int RUNS = 60;
+    private static final int SUPERVISED = 8000;
+    private static final int SUPERVISED_RUNS = 70;
+
+    // Main catches what goes wrong in a worker, closes it, goes on with those that the worker made, and begins again.
+    private static final int[][] SUPERVISOR = {
+        Asm.loadk(7, 1), Asm.create(1, 14), Asm.resume(2, 1, 1), Asm.resume(2, 1, 3), Asm.out(2), Asm.close(3, 1),
+        Asm.add(4, 1, 7), Asm.resume(5, 4, 2), Asm.close(3, 4), Asm.add(4, 4, 7), Asm.resume(5, 4, 2), Asm.resume(5, 4, 1), Asm.close(3, 4),
+        Asm.jmp(1)
+    };
 
     // How often each opcode is drawn; a plain draw would end most programs after a few steps.
     private static final int[] WEIGHTS = {8, 2, 3, 2, 1, 2, 2, 5, 3, 2, 5, 1, 6, 6, 5, 7, 2, 2, 2};
@@ -14,6 +23,10 @@ public final class ModelTest {
         for (int p = 0; p < PROGRAMS && check.wrongSoFar() == 0; p++) {
             seed = p;
             ends[compareOne("program " + p + ": ", check)]++;
+        }
+        for (int p = 0; p < SUPERVISED && check.wrongSoFar() == 0; p++) {
+            seed = -1 - p;
+            ends[compareSupervised("supervised program " + p + ": ", check)]++;
         }
         System.out.println(ends[1] + " still running, " + ends[2] + " done, " + ends[3] + " failed");
         check.end();
@@ -39,9 +52,9 @@ public final class ModelTest {
         return op;
     }
 
-    private static int[] drawInstruction(int length) {
+    private static int[] drawInstruction(int first, int length) {
         int op = drawOp();
-        int addr = draw(40) == 0 ? draw(64) : draw(length);
+        int addr = draw(40) == 0 ? draw(64) : first + draw(length - first);
         // Few registers, so that handles written by one instruction are read by another.
         int[] i = {op, draw(4), draw(4), draw(4)};
         if (draw(8) == 0) {
@@ -64,15 +77,35 @@ public final class ModelTest {
         Model model = new Model(maxCo, maxDepth);
         int length = 4 + draw(61);
         for (int k = 0; k < length; k++) {
-            int[] i = drawInstruction(length);
-            check.due(name + "emit", x.emit(i[0], i[1], i[2], i[3]), true);
-            model.emit(i);
+            emit(name, x, model, drawInstruction(0, length), check);
         }
-        int entry = draw(length);
-        int arg = draw(5) - 1;
+        return compareRuns(name, x, model, draw(length), draw(5) - 1, RUNS, check);
+    }
+
+    private static int compareSupervised(String name, Check check) {
+        int maxCo = 2 + draw(3);
+        int maxDepth = 1 + draw(6);
+        StackfulCoro x = new StackfulCoro(maxCo, maxDepth);
+        Model model = new Model(maxCo, maxDepth);
+        for (int[] i : SUPERVISOR) {
+            emit(name, x, model, i, check);
+        }
+        int length = SUPERVISOR.length + 6 + draw(45);
+        for (int k = SUPERVISOR.length; k < length; k++) {
+            emit(name, x, model, drawInstruction(SUPERVISOR.length, length), check);
+        }
+        return compareRuns(name, x, model, 0, 0, SUPERVISED_RUNS, check);
+    }
+
+    private static void emit(String name, StackfulCoro x, Model model, int[] i, Check check) {
+        check.due(name + "emit", x.emit(i[0], i[1], i[2], i[3]), true);
+        model.emit(i);
+    }
+
+    private static int compareRuns(String name, StackfulCoro x, Model model, int entry, int arg, int runs, Check check) {
         check.due(name + "start", x.start(entry, arg), true);
         model.start(entry, arg);
-        for (int k = 0; k < RUNS && x.getState() == StackfulCoro.ST_RUNNING; k++) {
+        for (int k = 0; k < runs && x.getState() == StackfulCoro.ST_RUNNING && check.wrongSoFar() == 0; k++) {
             int steps = k < 40 ? 1 : draw(40) - 1;
             check.due(name + "run(" + steps + ")", x.run(steps), model.run(steps));
             model.compare(name + "after run " + k + ": ", x, check);

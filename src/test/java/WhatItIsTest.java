@@ -12,6 +12,7 @@ public final class WhatItIsTest {
         mainIsHandleZero();
         handlesInOrderOfCreation();
         manyHandles();
+        oldAmongMany();
         ownStacks();
         frameHoldsRegisters();
         frameHoldsPcAndTags();
@@ -135,6 +136,31 @@ public final class WhatItIsTest {
         CHECK.due("only the newest is alive", alive, 1);
         CHECK.due("the newest", x.coStatus(handles + 1), StackfulCoro.CO_SUSPENDED);
         CHECK.due("getLiveCount()", x.getLiveCount(), 1);
+    }
+
+    // Handle 1 stands suspended in its second frame while many others are made, run and die, and then it goes on.
+    private static void oldAmongMany() {
+        int last = 70000;
+        for (int maxCo = 2; maxCo <= 4; maxCo++) {
+            StackfulCoro x = Asm.started(maxCo, 2, Asm.create(1, 10), Asm.resume(2, 1, 0), Asm.loadk(0, last),
+                    Asm.create(5, 14), Asm.resume(6, 5, 5), Asm.lt(4, 5, 0), Asm.jz(4, 8), Asm.jmp(3), Asm.resume(2, 1, 5), Asm.ret(2),
+                    Asm.loadk(7, 17), Asm.defer(7), Asm.call(3, 13, 7), Asm.yieldTo(0, 6), Asm.ret(0));
+            x.run(7);
+            int wrong = 0;
+            for (int h = 2; h <= last; h++) {
+                x.run(1);
+                wrong += x.getLiveCount() == 2 && x.coStatus(1) == StackfulCoro.CO_SUSPENDED && x.getLastHandle() == h ? 0 : 1;
+                x.run(2);
+                wrong += x.getLiveCount() == 1 && x.getDepth(1) == 2 && x.getPendingCleanups(1) == 17 && x.getReg(0, 6) == h ? 0 : 1;
+                x.run(3);
+            }
+            CHECK.due("maxCo " + maxCo + ": wrong answers about the old one and the counts", wrong, 0);
+            CHECK.due("maxCo " + maxCo + ": it goes on", x.currentCo(), 1);
+            CHECK.regs("maxCo " + maxCo + ": its second frame", x, 1, 17, 0, 0, 0, 0, 0, last, 0);
+            x.run(1);
+            CHECK.regs("maxCo " + maxCo + ": its first frame", x, 1, 0, 0, 0, 17, 0, 0, 0, 17);
+            CHECK.due("maxCo " + maxCo + ": its tag", x.getPendingCleanups(1), 17);
+        }
     }
 
     // Thread t goes down to t + 2 frames with tags 1 to t + 1, and there makes and resumes the next; 4 is the last.
