@@ -22,7 +22,9 @@ public final class Boundary04CoroutinesTest {
         firstFrameOfCoroutine();
         firstFrameIsClean();
         yieldGetsTheValue();
+        eachYieldGetsItsValue();
         yieldInMain();
+        yieldAfterErrors();
         yieldKeepsFrames();
         yieldDelivers();
         yieldContinues();
@@ -424,6 +426,33 @@ public final class Boundary04CoroutinesTest {
         }
     }
 
+    // Four stand at their YIELDs, the odd ones in a second frame, and are resumed in every order, some of them again.
+    private static void eachYieldGetsItsValue() {
+        for (int order = 0; order < 256; order++) {
+            StackfulCoro x = Asm.load(4, 2, Asm.create(1, 14), Asm.resume(6, 1, 0), Asm.create(2, 13), Asm.resume(6, 2, 0),
+                    Asm.create(3, 14), Asm.resume(6, 3, 0), Asm.create(4, 13), Asm.resume(6, 4, 0),
+                    Asm.resume(6, turn(order, 0), 0), Asm.resume(6, turn(order, 1), 1), Asm.resume(6, turn(order, 2), 2),
+                    Asm.resume(6, turn(order, 3), 3), Asm.jmp(12),
+                    Asm.jmp(15), Asm.call(1, 15, 0), Asm.yieldTo(0, 7), Asm.jmp(15));
+            x.start(0, 500);
+            x.run(8 + 4 * 2);
+            int[] got = new int[5];
+            for (int k = 0; k < 4; k++) {
+                x.run(1);
+                got[turn(order, k)] = k == 0 ? 500 : k;
+                for (int h = 1; h <= 4; h++) {
+                    CHECK.due("order " + order + ", resume " + k + ": getReg(" + h + ", 7)", x.getReg(h, 7), got[h]);
+                }
+                CHECK.due("order " + order + ", resume " + k + ": currentCo()", x.currentCo(), turn(order, k));
+                x.run(2);
+            }
+        }
+    }
+
+    private static int turn(int order, int k) {
+        return 1 + (order >> 2 * k & 3);
+    }
+
     private static void yieldInMain() {
         CHECK.sentence("YIELD: if the thread is main, ERR_YIELD_MAIN is raised.");
         for (int depth = 1; depth <= 6; depth++) {
@@ -446,6 +475,25 @@ public final class Boundary04CoroutinesTest {
         StackfulCoro inside = Asm.ran(1, 1, Asm.create(1, 2), Asm.resume(2, 1, 0), Asm.yieldTo(0, 0));
         CHECK.ended("the same YIELD in handle 1, then in main", inside, StackfulCoro.ST_FAILED, StackfulCoro.ERR_YIELD_MAIN);
         CHECK.due("handle 1 took it", inside.coStatus(1), StackfulCoro.CO_SUSPENDED);
+    }
+
+    // Whatever was raised and caught before, and wherever the coroutine lives, its YIELD is no fault.
+    private static void yieldAfterErrors() {
+        for (int e = -8; e <= 4; e++) {
+            StackfulCoro x = Asm.load(4, 1, Asm.create(1, 10), Asm.create(2, 12), Asm.create(3, 12), Asm.create(4, 12), Asm.resume(5, 1, 0),
+                    Asm.resume(7, 2, 2), Asm.resume(7, 3, 3), Asm.resume(7, 4, 4), Asm.resume(5, 4, 4), Asm.ret(5),
+                    Asm.error(0), Asm.ret(0), Asm.yieldTo(0, 1), Asm.jmp(12));
+            x.start(0, e);
+            x.run(6);
+            CHECK.due("raised and caught", x.getReg(0, 5), e);
+            for (int h = 2; h <= 4; h++) {
+                CHECK.due("after error " + e + ": run", x.run(2), 2);
+                CHECK.due("after error " + e + ": what " + h + " yielded", x.getReg(0, 7), h);
+                CHECK.due("after error " + e + ": coStatus(" + h + ")", x.coStatus(h), StackfulCoro.CO_SUSPENDED);
+            }
+            x.run(1000);
+            CHECK.ended("after error " + e, x, StackfulCoro.ST_DONE, 4);
+        }
     }
 
     // It yields in each of its frames; r7 of each frame is its depth, and one tag is pending in each.

@@ -8,6 +8,7 @@ public final class Boundary04EndsTest {
         closeOfActive();
         closeOfDead();
         closeOfSuspended();
+        closeOfEach();
         resumerRunsAgain();
         successWithResume();
         failureWithResume();
@@ -95,6 +96,38 @@ public final class Boundary04EndsTest {
             CHECK.due("main is current", x.currentCo(), 0);
             CHECK.due("coStatus(2)", x.coStatus(2), StackfulCoro.CO_SUSPENDED);
             CHECK.due("getLiveCount()", x.getLiveCount(), 1);
+        }
+    }
+
+    // Four stand suspended, h with the tags 10h and, in a second frame, 10h + 1; each closes alone, by main or by another.
+    private static void closeOfEach() {
+        for (int h = 1; h <= 4; h++) {
+            for (int closer = 0; closer <= 4; closer++) {
+                if (closer != h) {
+                    closeOne(h, closer);
+                }
+            }
+        }
+    }
+
+    private static void closeOne(int h, int closer) {
+        StackfulCoro x = Asm.started(4, 2, Asm.create(1, 18), Asm.loadk(3, 10), Asm.resume(5, 1, 3), Asm.create(1, 18), Asm.loadk(3, 20),
+                Asm.resume(5, 1, 3), Asm.create(1, 18), Asm.loadk(3, 30), Asm.resume(5, 1, 3), Asm.create(1, 18), Asm.loadk(3, 40),
+                Asm.resume(5, 1, 3), Asm.loadk(5, h), Asm.loadk(0, closer), closer == 0 ? Asm.jmp(16) : Asm.resume(6, 0, 5), Asm.jmp(15),
+                Asm.close(4, 5), Asm.jmp(17),
+                Asm.defer(0), Asm.call(7, 20, 0), Asm.loadk(1, 1), Asm.add(2, 0, 1), Asm.defer(2), Asm.yieldTo(2, 5), Asm.jmp(16));
+        x.run(4 * 9 + (closer == 0 ? 3 : 4));
+        String what = "CLOSE of " + h + " by " + closer;
+        CHECK.due(what + ": getLiveCount() before", x.getLiveCount(), 4);
+        CHECK.log(what + ": before", x);
+        x.run(1);
+        CHECK.log(what, x, 10 * h + 1, 10 * h);
+        CHECK.due(what + ": r4", x.getReg(closer, 4), 1);
+        for (int other = 1; other <= 4; other++) {
+            boolean closed = other == h;
+            CHECK.due(what + ": getDepth(" + other + ")", x.getDepth(other), closed ? 0 : 2);
+            CHECK.due(what + ": getPendingCleanups(" + other + ")", x.getPendingCleanups(other), closed ? 0 : 20 * other + 1);
+            CHECK.due(what + ": coStatus(" + other + ") is DEAD", x.coStatus(other) == StackfulCoro.CO_DEAD, closed);
         }
     }
 
